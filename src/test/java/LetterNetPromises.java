@@ -272,7 +272,9 @@ public final class LetterNetPromises {
         due("undo()", x.undo(), 7);
         due("undo()", x.undo(), 6);
         due("told(4)", x.told(4), 2);
-        due("mend() without links", new LetterNet().mend(), 0);
+        LetterNet empty = new LetterNet();
+        due("mend() without links", empty.mend(), 0);
+        due("a change, too", empty.told(7), 1);
     }
 
     private static void mendByLetter() {
@@ -435,6 +437,8 @@ public final class LetterNetPromises {
         for (int what = 0; what < want.length; what++) {
             due("link(0, " + what + ")", x.link(0, what), want[what]);
         }
+        due("link(1, 5)", x.link(1, 5), 6);
+        due("link(0, 5) whatever the map", hiddenLink().link(0, 5), 2);
         due("link(2, 5) dead", x.link(2, 5), 0);
         due("link(2, 3)", x.link(2, 3), 0);
         due("link(2, 4)", x.link(2, 4), 1);
@@ -721,6 +725,9 @@ public final class LetterNetPromises {
         for (int n : NO_NUMBERS) {
             dueFloat("stretch(" + n + ")", x.stretch(n), -1f);
         }
+        x.setRoom(0);
+        dueFloat("stretch(0) with the room 0", x.stretch(0), 1f);
+        x.setRoom(18);
         x.mend();
         dueFloat("stretch(0)", x.stretch(0), 1f);
         LetterNet none = hiddenLink();
@@ -805,6 +812,7 @@ public final class LetterNetPromises {
         dueFaults("cut", 3, "cut a", 5, "cut a ", 6, "cut 1 b", 4, "cut a b c", 8);
         dueFaults("fix a cut a b", 6, "learn a", 7, "learn a `", 8, "lear", 0, "learned", 0);
         dueFaults("size", 4, "size 1", 5, "size 0", 5, "size :", 5, "size 10", 5, "size a", 5);
+        dueFaults("size 1 x", 5, "link a b 0 x", 9, "link x y 0", 5, "cut a 2 x", 6, "x y", 0);
         dueFaults("size 3 size", 11, "size 3 cu", 7, "cut a bfix", 6, "si", 0);
         LetterNet x = new LetterNet();
         for (int i = 0; i < 80; i++) {
