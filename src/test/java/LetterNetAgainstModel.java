@@ -768,23 +768,38 @@ public final class LetterNetAgainstModel {
         }
     }
 
-    /** Rows of ends, length and life, in which a letter turns round very often: 39 links. */
-    private static final int[][] WINDING = {
-        {2, 4, 6, 0}, {1, 5, 9, 1}, {7, 5, 9, 0}, {3, 1, 8, 0}, {1, 0, 4, 0}, {0, 7, 3, 1},
-        {7, 8, 2, 0}, {3, 5, 8, 0}, {0, 5, 4, 0}, {0, 4, 8, 0}, {8, 4, 1, 0}, {3, 8, 1, 0},
-        {2, 6, 1, 1}, {8, 1, 9, 1}, {4, 5, 9, 1}, {2, 0, 1, 1}, {3, 6, 1, 1}, {4, 3, 8, 1}};
+    /** Networks, as rows of ends, length and life, in which letters turn round very often. */
+    private static final int[][][] WINDING = {
+        {{2, 4, 6, 0}, {1, 5, 9, 1}, {7, 5, 9, 0}, {3, 1, 8, 0}, {1, 0, 4, 0}, {0, 7, 3, 1},
+            {7, 8, 2, 0}, {3, 5, 8, 0}, {0, 5, 4, 0}, {0, 4, 8, 0}, {8, 4, 1, 0}, {3, 8, 1, 0},
+            {2, 6, 1, 1}, {8, 1, 9, 1}, {4, 5, 9, 1}, {2, 0, 1, 1}, {3, 6, 1, 1}, {4, 3, 8, 1}},
+        {{7, 4, 6, 0}, {1, 4, 3, 0}, {8, 6, 2, 0}, {5, 8, 1, 0}, {1, 0, 1, 1}, {0, 2, 1, 1},
+            {3, 8, 9, 1}, {8, 0, 4, 0}, {2, 7, 1, 1}, {5, 1, 1, 1}, {3, 2, 7, 0}, {3, 5, 3, 0},
+            {7, 8, 1, 0}, {4, 6, 9, 1}, {3, 4, 9, 1}, {5, 4, 9, 0}, {7, 6, 5, 1}, {6, 5, 5, 0}},
+        {{4, 1, 1, 1}, {4, 0, 1, 1}, {3, 6, 6, 0}, {6, 1, 1, 1}, {4, 3, 3, 0}, {3, 2, 6, 0},
+            {2, 5, 4, 0}, {2, 7, 2, 1}, {2, 0, 1, 1}, {8, 7, 1, 0}, {8, 4, 9, 0}, {7, 3, 9, 1},
+            {7, 5, 7, 0}, {3, 5, 9, 1}, {5, 8, 8, 1}, {6, 8, 1, 0}, {8, 2, 6, 0}, {5, 6, 4, 0}},
+        {{8, 4, 3, 0}, {2, 1, 3, 0}, {2, 6, 7, 0}, {6, 0, 3, 0}, {7, 5, 1, 1}, {2, 8, 1, 0},
+            {5, 8, 1, 0}, {1, 4, 6, 0}, {5, 6, 7, 0}, {2, 4, 3, 1}, {2, 3, 1, 1}, {6, 1, 9, 1},
+            {6, 4, 9, 1}, {1, 8, 9, 1}, {3, 0, 1, 1}, {8, 0, 9, 0}, {1, 5, 3, 0}, {0, 7, 1, 1}},
+        {{5, 4, 9, 0}, {8, 7, 1, 0}, {5, 6, 9, 1}, {7, 6, 7, 0}, {3, 2, 1, 1}, {8, 1, 2, 0},
+            {0, 2, 1, 1}, {5, 1, 7, 1}, {0, 4, 1, 1}, {1, 7, 8, 1}, {7, 3, 1, 1}, {5, 7, 4, 0},
+            {6, 8, 9, 0}, {8, 4, 4, 0}, {2, 1, 5, 0}, {2, 6, 4, 0}, {1, 4, 8, 0}, {6, 4, 8, 0}}};
 
-    private static void windingLetters() {
-        Run run = new Run(0);
+    /** How many links the letter from 0 to 8 goes along in each of them. */
+    private static final int[] WINDING_STEPS = {39, 40, 40, 40, 40};
+
+    private static void windingLetters(int which) {
+        Run run = new Run(-1 - which);
         run.due("begin(9)", run.net.begin(9), run.model.begin(9));
-        for (int i = 0; i < WINDING.length; i++) {
-            int[] row = WINDING[i];
+        for (int i = 0; i < WINDING[which].length; i++) {
+            int[] row = WINDING[which][i];
             run.due("add", run.net.add(row[0], row[1], row[2]),
                     run.model.add(row[0], row[1], row[2]));
             run.due("turn", run.net.turn(i, row[3]), run.model.turn(i, row[3]));
         }
         run.due("send(0, 8, 0)", run.net.send(0, 8, 0), run.model.send(0, 8, 0));
-        run.due("letter(0)", run.net.letter(0), 39);
+        run.due("letter(0)", run.net.letter(0), WINDING_STEPS[which]);
         for (int what = 0; what < 8; what++) {
             run.due("letter", run.net.letter(what), run.model.letter(what));
             run.due("all", run.net.all(what, 0), run.model.all(what, 0));
@@ -801,7 +816,9 @@ public final class LetterNetAgainstModel {
     }
 
     public static void main(String[] args) {
-        windingLetters();
+        for (int which = 0; which < WINDING.length; which++) {
+            windingLetters(which);
+        }
         int runs = args.length > 0 ? Integer.parseInt(args[0]) : RUNS;
         for (int seed = 1; seed <= runs && wrong < 20; seed++) {
             new Run(seed).go();
