@@ -1,6 +1,7 @@
 import java.lang.reflect.InvocationTargetException;
 import java.lang.reflect.Method;
 import java.util.ArrayList;
+import java.util.Arrays;
 import java.util.HashMap;
 import java.util.List;
 import java.util.Map;
@@ -20,6 +21,8 @@ public final class LetterNetBoundaries {
     private static final int MOST_CALLS = 512;
     /** One fault can make very many answers wrong. */
     private static final int MOST_TOLD = 40;
+    private static final int[] EDGES = {Integer.MIN_VALUE, -3, -2, -1, 0, 1, 2, 8, 9, 10, 17, 18,
+        19, 31, 32, 40, 41, 80, 126, 127, Integer.MAX_VALUE};
     private static final Pattern ITEM = Pattern.compile(
             "\\s*(?:'([^']*)'|(?:(\\d+)\\*)?(\\w+)\\(([^)]*)\\)(?:=(\\S+))?)\\s*");
     private static final Map<String, Method> METHODS = new HashMap<>();
@@ -80,10 +83,14 @@ public final class LetterNetBoundaries {
             if (method == null) {
                 throw new IllegalArgumentException("no method: " + name + "(" + arguments + ")");
             }
+            return answerOf(method, values);
+        }
+
+        float answerOf(Method method, Object... values) {
             try {
                 return ((Number) method.invoke(net, values)).floatValue();
             } catch (InvocationTargetException | IllegalAccessException e) {
-                complain(name + "(" + arguments + ") threw " + e.getCause());
+                complain(method.getName() + Arrays.toString(values) + " threw " + e.getCause());
                 return Float.NaN;
             }
         }
@@ -307,6 +314,24 @@ public final class LetterNetBoundaries {
         }
     }
 
+    /** LANGUAGE.md, rule 7: for any arguments in any state, past the 512th call too. */
+    private static void noCallThrows() {
+        also("no call throws");
+        for (String setup : new String[] {"", EIGHTEEN, RICH, POOR, winding(FORTY_TWO)}) {
+            for (Method method : METHODS.values()) {
+                Run run = new Run().make(setup);
+                int count = method.getParameterCount();
+                for (int i = 0; i < Math.pow(EDGES.length, count); i++) {
+                    Object[] values = new Object[count];
+                    for (int k = 0, rest = i; k < count; k++, rest /= EDGES.length) {
+                        values[k] = EDGES[rest % EDGES.length];
+                    }
+                    run.answerOf(method, values);
+                }
+            }
+        }
+    }
+
     private static void conventions() {
         says("The error codes are BAD (-1)");
         if (LetterNet.BAD != -1 || LetterNet.STATE != -2 || LetterNet.FULL != -3
@@ -379,6 +404,9 @@ public final class LetterNetBoundaries {
         run(EIGHTEEN, "turn(9,0)=1 know(9,0)=1 turn(7,0)=1 know(10,0)=1 remove(8)=17 link(7,3)=0 "
                 + "link(7,4)=1 link(8,3)=0 link(8,4)=0 link(9,3)=1 link(9,4)=0 link(16,3)=1 "
                 + "told(2)=15 told(3)=15");
+        run("add(0,1,1) add(0,2,2) add(0,3,3) add(1,2,4) turn(0,0) know(0,0) remove(2)=3 "
+                + "link(0,3)=0 link(0,4)=0 link(0,2)=1 link(1,2)=2 link(1,3)=1 link(2,2)=4 "
+                + "remove(0)=2 link(0,2)=2 link(0,3)=1 link(1,2)=4 link(1,4)=1");
         says("A link has two ends, which are different nodes, and a length from 1 to 9");
         run("add(1,1,1)=BAD add(3,3,1)=BAD add(0,1,0)=BAD add(0,1,10)=BAD add(0,1,1)=0 "
                 + "add(3,2,9)=1 link(0,2)=1 link(1,2)=9 link(1,0)=2 link(1,1)=3");
@@ -479,6 +507,8 @@ public final class LetterNetBoundaries {
         run(SQUARE, "send(0,3,1)=-13 letter(0)=40 letter(1)=40 letter(3)=3 letter(4)=2 "
                 + "letter(5)=41 passed(40)=2 passed(41)=NONE passed(39)=1 letter(2)=0");
         run(SQUARE, "send(1,3,1)=-13 letter(0)=40 letter(4)=1 passed(40)=1 passed(41)=NONE");
+        run(EIGHTEEN, "turn(7,0) send(0,8,1)=2 passed(1)=1 send(7,8,1)=3 passed(1)=0 "
+                + "passed(2)=1 letter(1)=3");
         says("A blind letter carries no list.");
         run(SQUARE, "setRoom(0)=18 send(2,1,1)=1 letter(2)=0 carried(0,0)=NONE mendByLetter()=0");
         says("without those links with the end u that are dead");
@@ -746,6 +776,7 @@ public final class LetterNetBoundaries {
                 + "told(8)=1 turn(0,0) told(8)=2");
         run(CHAIN, "told(8)=1 turn(0,0) told(8)=2 turn(7,0) told(8)=3 turn(3,0) told(8)=4");
         run(EIGHTEEN, "told(8)=1");
+        run("add(0,2,1) told(8)=3 add(1,3,1) told(8)=2 begin(9) add(0,8,1) add(1,7,1) told(8)=7");
         says("Returns the number; BAD if what is out of range.");
         run("told(LEAST)=BAD told(-1)=BAD told(9)=BAD told(GREATEST)=BAD");
         says("0 its lower end; 1 its higher end");
@@ -848,12 +879,15 @@ public final class LetterNetBoundaries {
                 + "stretch(GREATEST)=-1.0 add(0,1,9) stretch(0)=1.0 stretch(1)=1.0 turn(0,0) "
                 + "stretch(0)=0.0 stretch(1)=0.0 turn(0,1) know(0,0) stretch(0)=0.0 "
                 + "stretch(1)=0.0");
-        run(SQUARE, "stretch(0)=46/42 setRoom(0) stretch(0)=1 stretch(2)=-1");
+        run(SQUARE, "stretch(0)=46/42 stretch(1)=1 setRoom(0) stretch(0)=1 stretch(2)=-1");
+        run("add(0,1,1) add(1,3,1) add(0,2,2) add(2,3,2) add(1,2,2) turn(1,0) all(3,1)=31 "
+                + "all(4,1)=30 all(7,1)=1 stretch(1)=31/30");
         says("the least room with which as many letters that carry lists arrive");
         run("enoughRoom()=0 begin(2) enoughRoom()=0 add(0,1,1) enoughRoom()=0 turn(0,0) "
                 + "enoughRoom()=0 begin(9) enoughRoom()=0");
         run(SQUARE, "enoughRoom()=1 setRoom(0) enoughRoom()=1 setRoom(1) all(1,0)=12 setRoom(0) "
-                + "all(1,0)=6 told(5)=0");
+                + "all(1,0)=6 told(5)=0 turn(2,1) enoughRoom()=0 turn(2,0) enoughRoom()=1 begin(2) "
+                + "enoughRoom()=0");
         run("add(0,1,1) add(1,2,1) add(0,3,1) add(2,3,1) add(0,2,9) turn(0,0) turn(2,0) "
                 + "enoughRoom()=2 all(1,0)=12 setRoom(2) all(1,0)=12 setRoom(1) all(1,0)=6 "
                 + "enoughRoom()=2 setRoom(0) all(1,0)=4 enoughRoom()=2 told(5)=0");
@@ -942,6 +976,7 @@ public final class LetterNetBoundaries {
             }
         }
         whatItIs();
+        noCallThrows();
         conventions();
         refusedCalls();
         questions();
